@@ -11,6 +11,7 @@ public final class GangTest {
         whatIsTold();
         faults();
         tooMany();
+        behindTheEnd();
         readAnew();
         c.close();
     }
@@ -134,14 +135,15 @@ public final class GangTest {
             "digger |1000000000000000000000 1;", "digger |54;", "digger 5 |;", "digger |;", "digger |left;",
             "digger 1 1 |right;", "digger 1 1 |1;", "digger 1 1 |lefty;", "digger 1 1 left |left;",
             "digger 1 1 left |right;", "digger 1 1 |digger 1 1;", "digger|-1 1;", "digger 1|,1;", "digger|\t1 1;",
-            "digger |digger;", "|dig ger 1 1;",
+            "digger |digger;", "|dig ger 1 1;", "|xigger 1 1;", "|diggex 1 1;", "|diggerz 1 1;", "|zdigger 1 1;", "|adigger 1 1;",
+            "|xpade 1;", "|xard 1 1;", "digger 1 1 |xeft;", "spade 1 |xight;", "spade 1 |righ;",
             "spade |0;", "spade |10;", "spade |;", "spade |left;", "spade 5 |5;", "spade 5 left |right;",
             "spade 5 right |left;", "spade 5 |leftright;", "spade 5 |rights;",
             "yard |0 1;", "yard |100 1;", "yard |099 1;", "yard 99 |0;", "yard 99 |10;", "yard 99 |99;", "yard 1 |;",
             "yard 1 1 |left;", "yard 1 1|.;",
             "digger 1 1;|;", "digger 1 1;spade 1; |x", "digger 1 1;spade 1;yard 1 |spade", "digger 1 1;|00;",
             "digger|", "digger |", "digger 1|", "digger 1 1|", "digger 1 1  |", "digger 1 1 left|", "spade 9  |",
-            "spade|", "yard 3 |", "yard 3 4|", "spade 1;digger|",
+            "spade|", "yard|", "yard |", "yard 3 |", "yard 3 4|", "spade 1;digger|",
         };
         for (String barred : texts) {
             int place = barred.indexOf('|');
@@ -155,6 +157,32 @@ public final class GangTest {
         c.due("a ninth spade", items("spade1;".repeat(9)), -10 - 56);
         c.due("a ninth yard", items("yard1 1;".repeat(9)), -10 - 64);
         c.due("a ninth yard, cut short", items("yard1 1;".repeat(8) + " yard"), -10 - 65);
+    }
+
+    /** What stood behind a text's end before is not read. */
+    private static void behindTheEnd() {
+        SpadeRings x = new SpadeRings();
+        Check.write(x, "digger 15 1;");
+        x.clear();
+        Check.write(x, "digger 1");
+        c.due("no figure from before", x.gang(), -10 - 8);
+        x.clear();
+        Check.write(x, "digger 1 1;");
+        x.clear();
+        Check.write(x, "dig");
+        c.due("no letter from before", x.gang(), -10);
+        x.clear();
+        Check.write(x, "digger 1 1 ");
+        c.due("no ; from before", x.gang(), -10 - 11);
+        x.clear();
+        Check.write(x, "digger 1 1;spade 1;");
+        c.due("two", x.gang(), 2);
+        Check.write(x, "spade 2");
+        c.due("no token from before", x.gang(), -10 - 7);
+        Check.write(x, ";");
+        c.due("it goes on", x.gang(), 1);
+        c.due("sharp", x.spade(0, 0), 2);
+        c.due("no diggers now", x.count(0), 0);
     }
 
     private static void readAnew() {

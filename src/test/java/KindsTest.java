@@ -50,7 +50,7 @@ public final class KindsTest {
     }
 
     private static void images() {
-        SpadeRings x = Check.gang("digger 5 4;digger 2 9;spade 1;spade 2;spade 3;yard 3 1;yard 4 1;");
+        SpadeRings x = Check.gang("digger 5 4;digger 2 9;spade 1;spade 2;spade 3;yard 3 1;yard 7 1;yard 9 1;");
         c.due("keep BAD", x.keep(-1), SpadeRings.BAD);
         c.due("keep BAD", x.keep(2), SpadeRings.BAD);
         c.due("back BAD", x.back(-1), SpadeRings.BAD);
@@ -94,7 +94,7 @@ public final class KindsTest {
 
     private static int[] state(SpadeRings x) {
         return new int[] {x.now(0), x.now(1), x.now(2), x.now(3), x.now(4), x.now(5), x.digger(0, 3), x.digger(1, 3),
-            x.spade(0, 2), x.spade(1, 2), x.spade(2, 2), x.yard(0, 2), x.yard(1, 2)};
+            x.spade(0, 2), x.spade(1, 2), x.spade(2, 2), x.yard(0, 2), x.yard(1, 2), x.yard(2, 2)};
     }
 
     private static void same(String what, int[] got, int[] want) {

@@ -103,6 +103,28 @@ public final class NightsTest {
         told(x, 3, 2);
         x.tell(2, 2, 1);
         told(x, 7, 2);
+        falseByOne();
+    }
+
+    /** Each of these rounds is false by the people alone, or by the spades alone. */
+    private static void falseByOne() {
+        SpadeRings x = Check.gang("digger1 1;digger1 1;digger1 1;spade1;spade1;spade1;");
+        for (int d = 0; d < 3; d++) {
+            x.tell(10 + d, d, 0);
+            told(x, 0, d);
+            x.tell(10 + d, d, 2);
+            told(x, 0, d + 1);
+        }
+        SpadeRings y = Check.gang("digger1 1;digger1 1;digger1 1;spade1;spade1;spade1;");
+        for (int s = 0; s < 3; s++) {
+            y.tell(20 + s, 1, s);
+            told(y, 0, s);
+            y.tell(20 + s, 2, s);
+            told(y, 0, s + 1);
+        }
+        y.tell(30, 0, 1);
+        y.tell(30, 1, 0);
+        told(y, 2, 3);
     }
 
     private static void told(SpadeRings x, int cheats, int falseRounds) {
