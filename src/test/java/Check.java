@@ -1,6 +1,7 @@
 /** Counts the answers that are not as due; a test's main makes one and ends with close(). */
 final class Check {
     private final String name;
+    private String sentence = "";
     private int asked;
     private int wrong;
 
@@ -8,11 +9,16 @@ final class Check {
         this.name = name;
     }
 
+    /** The document's sentence that the answers from here on stand for; it is told with a wrong one. */
+    void says(String words) {
+        sentence = " (\"" + words + "\")";
+    }
+
     void due(String call, long got, long want) {
         asked++;
         if (got != want) {
             wrong++;
-            System.out.println(name + ": " + call + " answered " + got + ", due is " + want);
+            System.out.println(name + ": " + call + " answered " + got + ", due is " + want + sentence);
         }
     }
 
@@ -55,5 +61,10 @@ final class Check {
             throw new IllegalArgumentException(text);
         }
         return x;
+    }
+
+    /** Six diggers, eight spades for any hand, eight yards: as many as may be, all of the least numbers. */
+    static String fullGang() {
+        return "digger1 1;".repeat(6) + "spade1;".repeat(8) + "yard1 1;".repeat(8);
     }
 }
