@@ -25,6 +25,7 @@ public final class EdgesPlansTest {
         ringsAllTheirStrengths();
         ringsAtMost();
         ringsTheLeastBits();
+        ringsTheNextRingByItsLeastDigger();
         meetingRefused();
         meetingWithoutYards();
         meetingOfOneClod();
@@ -392,6 +393,16 @@ public final class EdgesPlansTest {
         SpadeRings mixed = Check.gang("digger 1 1;digger 1 9;digger 1 1;digger 1 9;");
         rings(mixed, 2, 9, 20, 5, 10, 5, 10);
         rings(mixed, 3, 9, 20, 1, 10, 4, 10);
+    }
+
+    /** In 9 beats they throw 9, 2, 1, 3 times: digger 1 with digger 2 or with digger 3 loses alike. */
+    private static void ringsTheNextRingByItsLeastDigger() {
+        c.says("the ring of the least digger that is in none ahead");
+        rings(Check.gang("digger 9 1;digger 1 4;digger 1 9;digger 1 3;"), 3, 9, 86, 1, 6, 6, 8);
+        rings(Check.gang("digger 1 4;digger 9 1;digger 1 9;digger 1 3;"), 3, 9, 86, 5, 2, 5, 8);
+        rings(Check.gang("digger 1 4;digger 1 9;digger 1 3;"), 2, 9, 5, 3, 3, 4);
+        rings(Check.gang("digger 1 4;digger 1 3;digger 1 9;"), 2, 9, 5, 3, 3, 4);
+        rings(Check.gang("digger 1 9;digger 1 4;digger 1 3;"), 2, 9, 5, 1, 6, 6);
     }
 
     // ---- meeting

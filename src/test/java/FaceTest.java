@@ -24,6 +24,7 @@ public final class FaceTest {
         Check c = new Check("FaceTest");
         constants(c);
         members(c);
+        sizes(c);
         source(c);
         c.close();
     }
@@ -79,12 +80,61 @@ public final class FaceTest {
         return text.append(")").toString();
     }
 
+    /** Rules 2, 5, 11: how many classes, fields and parameters; what is static. */
+    private static void sizes(Check c) {
+        Class<?>[] inside = SpadeRings.class.getDeclaredClasses();
+        c.is("twelve classes at most", inside.length + 1 <= 12);
+        size(c, SpadeRings.class);
+        for (Class<?> one : inside) {
+            c.is(one + " is not public", !Modifier.isPublic(one.getModifiers()) && !Modifier.isProtected(one.getModifiers()));
+            c.due("classes inside " + one, one.getDeclaredClasses().length, 0);
+            size(c, one);
+        }
+    }
+
+    private static void size(Check c, Class<?> one) {
+        int fields = 0;
+        for (Field f : one.getDeclaredFields()) {
+            if (Modifier.isStatic(f.getModifiers())) {
+                c.is(f + " is final", Modifier.isFinal(f.getModifiers()));
+            } else {
+                fields++;
+            }
+        }
+        c.is(one + " has twenty fields at most: " + fields, fields <= 20);
+        for (Method m : one.getDeclaredMethods()) {
+            c.is(m + " takes seven parameters at most", m.getParameterCount() <= 7);
+            c.is(m + " is the class's own", !Set.of("equals", "hashCode", "toString").contains(m.getName()));
+        }
+    }
+
+    /** Rule 11: some sixty lines; a method begins and ends where its own indent stands. */
+    private static int longestMethod(String text) {
+        int longest = 0;
+        int begun = 0;
+        String indent = "";
+        String[] lines = text.split("\n");
+        for (int i = 0; i < lines.length; i++) {
+            if (lines[i].matches(" +[\\w\\[\\]<> ]+\\(.*\\) \\{") && !lines[i].matches(" +(if|for|while|switch|else|return) .*")) {
+                begun = i;
+                indent = lines[i].replaceAll("\\S.*", "");
+            } else if (begun > 0 && lines[i].equals(indent + "}")) {
+                longest = Math.max(longest, i - begun + 1);
+                begun = 0;
+            }
+        }
+        return longest;
+    }
+
     private static void source(Check c) throws Exception {
         String text = Files.readString(Path.of("src/main/java/SpadeRings.java"));
         String code = text.replaceAll("(?s)/\\*.*?\\*/", " ").replaceAll("//[^\n]*", " ");
         Matcher banned = Pattern.compile("\\b(throw|throws|try|catch|finally|synchronized|assert|import|package"
                 + "|Exception|Object|var|System\\.out|Math\\.\\w+Exact)\\b|->|::").matcher(code);
         c.is("no banned word" + (banned.find() ? ": " + banned.group() : ""), !banned.reset().find());
+        c.is("a loop's end is told", !Pattern.compile("while \\(true\\)|for \\(;;|for \\([^;]*; *;").matcher(code).find());
+        int longest = longestMethod(text);
+        c.is("no method of more than sixty lines: " + longest, longest > 10 && longest <= 60);
         c.is("signs 1 to 127", text.chars().allMatch(sign -> sign >= 1 && sign <= 127));
         // The two helps that look at the divisor first are the only ones that may divide by a variable.
         Matcher divisor = Pattern.compile("[/%]\\s*([^\\s])").matcher(code);
